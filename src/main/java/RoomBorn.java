@@ -20,8 +20,7 @@ public final class RoomBorn {
     private static final int LASTS_AT_MOST = 60;
     private static final int FAULT_AT = -10;
 
-    private final int[] text = new int[MOST_LETTERS];
-    private final Reader reader = new Reader(text);
+    private final Text text = new Text();
     private final Moment today = new Moment();
     private final Past past = new Past();
     private final Moment[] images = new Moment[IMAGES];
@@ -30,7 +29,6 @@ public final class RoomBorn {
     private final Seen seen = new Seen();
     private Told told = new Told();
     private Told draft = new Told();
-    private int letters = 0;
     private long traced = 0;
 
     public RoomBorn() {
@@ -46,28 +44,27 @@ public final class RoomBorn {
         if (letter < 0 || letter > 255) {
             return BAD;
         }
-        if (letters >= MOST_LETTERS) {
+        if (text.length >= MOST_LETTERS) {
             return FULL;
         }
-        text[letters] = letter;
-        letters++;
-        return letters;
+        text.add(letter);
+        return text.length;
     }
 
     public int clear() {
-        int had = letters;
-        letters = 0;
+        int had = text.length;
+        text.length = 0;
         return had;
     }
 
     public int town() {
-        if (!reader.reads(letters, draft)) {
-            return FAULT_AT - reader.start;
+        if (!text.reads(draft)) {
+            return FAULT_AT - text.start;
         }
         Told former = told;
         told = draft;
         draft = former;
-        letters = 0;
+        text.length = 0;
         beginAnew();
         return told.items;
     }
@@ -378,7 +375,7 @@ public final class RoomBorn {
             case 4:
                 return seen.known;
             case 5:
-                return letters;
+                return text.length;
             default:
                 return BAD;
         }
@@ -598,13 +595,13 @@ public final class RoomBorn {
         }
     }
 
-    /** Reads a text token by token. What can't stand is always the token just read, so its start is the fault. */
-    private static final class Reader {
+    /** The text, read token by token. What can't stand is always the token just read, so its start is the fault. */
+    private static final class Text {
         private static final int END = -1;
         private static final int NUMBER = -2;
 
-        private final int[] letters;
-        private int length;
+        private final int[] letters = new int[MOST_LETTERS];
+        private int length = 0;
         private int place;
         private int start;
         private int token;
@@ -612,12 +609,12 @@ public final class RoomBorn {
         private boolean mothersTold;
         private boolean lifeTold;
 
-        private Reader(int[] letters) {
-            this.letters = letters;
+        private void add(int letter) {
+            letters[length] = letter;
+            length++;
         }
 
-        private boolean reads(int textLength, Told into) {
-            length = Math.min(textLength, letters.length);
+        private boolean reads(Told into) {
             place = 0;
             mothersTold = false;
             lifeTold = false;

@@ -121,6 +121,11 @@ public final class KindsTest {
             x.rate(kind, 0);
             Check.due("trace() by rate(" + kind + ", 0)", due[kind], x.trace());
         }
+        RoomBorn one = Check.town("a1;");
+        for (int kind = 5; kind >= 0; kind--) {
+            one.rate(kind, 0);
+        }
+        Check.due("trace() by all kinds", 111226, one.trace());
         RoomBorn x = Check.town("a1;w0 9;");
         x.bears(0, 0);
         x.keep(0);

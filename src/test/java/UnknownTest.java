@@ -64,6 +64,9 @@ public final class UnknownTest {
         ages(x, 11, 10, 20);
         x.sees(1, 0);
         ages(x, 5, 10, 14);
+        RoomBorn newborn = Check.town("w0 0;");
+        newborn.sees(0, 1);
+        ages(newborn, 1, 0, 0);
         Check.due("ages(-1)", -1, x.ages(-1));
         Check.due("ages(3)", -1, x.ages(3));
     }
@@ -87,6 +90,12 @@ public final class UnknownTest {
         Check.due("ages(0)", 10, x.ages(0));
         RoomBorn less = Check.town("w0 29;w0 39;w0 69;");
         Check.due("next(), the greater part", 1, less.next());
+        RoomBorn first = Check.town("w5 5;w0 0;w0 1;");
+        first.sees(2, 1);
+        Check.due("next(), of the ages 0 and 1", 1, first.next());
+        RoomBorn last = Check.town("w5 5;w99 99;w98 99;");
+        last.sees(2, 1);
+        Check.due("next(), of the ages 98 and 99", 1, last.next());
     }
 
     private static void tryingNone() {

@@ -124,6 +124,8 @@ public final class WorksTest {
         }
         Check.due("join(198)", 1, old.join(198));
         Check.due("join(149)", 3, old.join(149));
+        Check.due("join(16), all six", 63, Check.town("a0;a0;a99;a0;a0;a0;").join(16));
+        Check.due("join(19), five of six", 31, Check.town("a0;a0;a99;a0;a0;a0;").join(19));
     }
 
     private static void elders() {
@@ -175,6 +177,8 @@ public final class WorksTest {
         Check.due("odds(0, 1), no rooms", 1, none.odds(0, 1));
         Check.due("odds(0, 0), no works", -1, Check.town("a1;").odds(0, 0));
         RoomBorn all = Check.town("m1;a5;w0 99;");
+        Check.due("odds(0, 0), one room", 1, all.odds(0, 0));
+        Check.due("odds(0, 1), one room", 1, all.odds(0, 1));
         all.bears(0, 0);
         Check.due("odds(0, 0), none unborn", 0, all.odds(0, 0));
         Check.due("odds(0, 1), none unborn", 1, all.odds(0, 1));
