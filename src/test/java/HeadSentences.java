@@ -138,6 +138,23 @@ final class HeadSentences {
         Check.due("no ROOMS", 0, x.count(0));
         Check.due("MOTHERS", 3, x.count(1));
         Check.due("LIFE", 70, x.count(3));
+        Check.type(x, "a1;a2;w1 2;w2 3;m5;l20;");
+        for (int i = 0; i < 4; i++) {
+            x.type('q');
+            Check.due("a fault once more", -33, x.town());
+        }
+        x.clear();
+        Check.type(x, "a3;w4 5;");
+        Check.due("no ITEM of the faults counts", 2, x.town());
+        Check.yes("nothing of the faults is told", told(x).equals(told(Check.town("a3;w4 5;"))));
+    }
+
+    private static String told(RoomBorn x) {
+        StringBuilder all = new StringBuilder();
+        for (int what = 0; what < 6; what++) {
+            all.append(x.count(what)).append(' ').append(x.work(0, what)).append(' ').append(x.room(0, what)).append(' ');
+        }
+        return all.toString();
     }
 
     private static RoomBorn done(String typed) {

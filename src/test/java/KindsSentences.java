@@ -250,6 +250,7 @@ final class KindsSentences {
             Check.due("IMAGE 1 is gone", -2, x.back(1));
             Check.due("how much may be SEEN again", x.count(2) == 0 ? -1 : 1, x.sees(0, 1));
         }
+        againAndAgain();
         RoomBorn y = Check.town("a5;");
         y.keep(0);
         y.year();
@@ -257,6 +258,30 @@ final class KindsSentences {
         Check.due("a fault", -10, y.town());
         Check.due("what is known then", 1, y.now(4));
         Check.due("what is kept then", 0, y.back(0));
+    }
+
+    /** Of one object, town after town, fewer and more of each: nothing of an earlier town is left. */
+    private static void againAndAgain() {
+        String[] texts = {"m6;l99;a9;a9;a9;w0 99;w0 99;w0 99;w0 99;", "m2;a5;w0 9;w0 9;w0 9;", "m4;l20;a7;w3 8;", "m1;a1;",
+            "m5;a3;w0 9;w2 4;", "m3;a2;a2;a2;a2;w0 5;w0 5;w2 7;w2 8;w1 4;", "m2;a4;w4 4;w3 5;"};
+        RoomBorn x = new RoomBorn();
+        for (String text : texts) {
+            Check.type(x, text);
+            x.town();
+            RoomBorn alone = Check.town(text);
+            for (RoomBorn town : new RoomBorn[] {x, alone}) {
+                for (int m = 0; m < 6; m++) {
+                    town.bears(m, 0);
+                }
+            }
+            Check.due("FILLED of " + text, alone.now(3), x.now(3));
+            Check.due("WORKS of " + text, alone.count(2), x.count(2));
+            Check.due("ROOMS of " + text, alone.count(0), x.count(0));
+            Check.yes("who comes in " + text, Look.deeds(alone).equals(Look.deeds(x)));
+            for (int c = 0; c < 6; c++) {
+                Check.due("fills(" + c + ") of " + text, alone.fills(c), x.fills(c));
+            }
+        }
     }
 
     private static void theTraceGoesOn() {

@@ -360,5 +360,14 @@ final class RoomsSentences {
         Check.due("too early", -12, x.town());
         x.type(';');
         Check.due("gone on with", 1, x.town());
+        Check.type(x, "w1 2345");
+        x.clear();
+        Check.type(x, "w1 2");
+        Check.due("too early, though there were letters behind", -14, x.town());
+        x.type(';');
+        Check.due("gone on with", 1, x.town());
+        Check.type(x, "a5");
+        Check.due("too early, though a town was told of more", -12, x.town());
+        Check.due("all 120, the last a number", -130, Check.told(" ".repeat(117) + "a55"));
     }
 }
