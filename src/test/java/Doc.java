@@ -13,7 +13,7 @@ final class Doc {
     private Doc() {
     }
 
-    /** What follows is the test of this sentence of a part ("Terms", "Promise 7"). */
+    /** What follows is the test of this sentence of a part ("Terms", "Promise 7"; "": ahead of the first one). */
     static void says(String part, String sentence) {
         Check.about(part + ", \"" + sentence + "\"");
         String text = TEXTS.getOrDefault(part, "");
@@ -28,18 +28,14 @@ final class Doc {
         }
     }
 
-    /** Fails for each piece of the terms and of the promises that no test has named. */
+    /** Fails for each piece of the document, from its first line on, that no test has named. */
     static void everySentenceIsNamed() {
         Check.about("the document");
-        int parts = 0;
         for (String part : TEXTS.keySet()) {
-            if (part.equals("Terms") || part.startsWith("Promise ")) {
-                parts++;
-                String rest = rest(part);
-                Check.yes(part + " has a test for: " + rest, rest.isEmpty());
-            }
+            String rest = rest(part);
+            Check.yes(part + " has a test for: " + rest, rest.isEmpty());
         }
-        Check.due("parts of the document", 28, parts);
+        Check.due("parts of the document", 32, TEXTS.size());
     }
 
     private static String rest(String part) {
@@ -58,7 +54,7 @@ final class Doc {
         for (String line : lines(path)) {
             if (line.startsWith("## ")) {
                 part = line.substring(3).replaceAll("^(Promise \\d+): .*", "$1");
-            } else if (!line.startsWith("```") && !line.startsWith("Ahead of the calls")) {
+            } else if (!line.startsWith("```")) {
                 parts.computeIfAbsent(part, p -> new StringBuilder()).append(' ').append(line);
             }
         }
@@ -67,10 +63,9 @@ final class Doc {
         return texts;
     }
 
-    /** Without the heads of the four parts, without a promise's signature, with single blanks. */
+    /** Without the heads of the four parts, with single blanks. */
     private static String plain(String text) {
-        String single = text.replaceAll("======== \\d ", " ").replaceAll("\\s+", " ").trim();
-        return single.replaceAll("^`[^`]*`: ", "");
+        return text.replaceAll("======== \\d ", " ").replaceAll("\\s+", " ").trim();
     }
 
     private static Iterable<String> lines(Path path) {

@@ -1,6 +1,7 @@
-/** One test for each sentence of the document's terms and promises, each at its boundaries. */
+/** One test for each sentence of the document, from its first line on, each at its boundaries. */
 public final class SentencesTest {
     public static void main(String[] args) {
+        FirstSentences.all();
         RoomsSentences.all();
         YearsSentences.all();
         AsksSentences.all();
