@@ -301,7 +301,7 @@ final class HeadSentences {
         }
         Check.due("none LIVES", 0, x.now(1));
         Doc.says("Promise 10", "STATE: it is 99.");
-        while (x.now(0) < 98) {
+        for (int year = x.now(0); year < 98; year++) {
             x.year();
         }
         Check.due("it is 98", 0, x.year());
@@ -534,7 +534,7 @@ final class HeadSentences {
         Doc.says("Promise 24", "An IMAGE is kept: YEAR.");
         RoomBorn x = Check.town(TOWN);
         Check.due("keep(0) in YEAR 0", 0, x.keep(0));
-        while (x.now(0) < 99) {
+        for (int year = x.now(0); year < 99; year++) {
             x.year();
         }
         Check.due("keep(1) in YEAR 99", 99, x.keep(1));

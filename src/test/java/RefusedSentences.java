@@ -34,7 +34,7 @@ final class RefusedSentences {
 
     private static RoomBorn inTheLastYear() {
         RoomBorn x = lively();
-        while (x.now(0) < 99) {
+        for (int year = x.now(0); year < 99; year++) {
             x.year();
         }
         return x;
@@ -42,7 +42,7 @@ final class RefusedSentences {
 
     private static RoomBorn withFullText() {
         RoomBorn x = lively();
-        while (x.count(5) < 120) {
+        for (int letters = x.count(5); letters < 120; letters++) {
             x.type(' ');
         }
         return x;
@@ -50,7 +50,7 @@ final class RefusedSentences {
 
     private static RoomBorn withAllSeen() {
         RoomBorn x = lively();
-        while (x.count(4) < 6) {
+        for (int known = x.count(4); known < 6; known++) {
             x.sees(1, 1);
         }
         return x;
@@ -178,7 +178,7 @@ final class RefusedSentences {
         Check.due("none was kept", RoomBorn.STATE, x.back(1));
         Check.due("none to undo", RoomBorn.STATE, new RoomBorn().undo());
         Check.due("it is 99", RoomBorn.STATE, inTheLastYear().year());
-        while (x.now(4) > 0) {
+        for (int known = x.now(4); known > 0; known--) {
             x.undo();
         }
         Check.due("no more BORN", 0, x.carry(0, 0));
